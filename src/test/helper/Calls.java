@@ -1,8 +1,12 @@
 import java.lang.reflect.InvocationTargetException;
 import java.lang.reflect.Method;
+import java.util.HashMap;
+import java.util.Map;
 
 /** Carries out calls that are written as text, such as "dig(0, 2)". */
 final class Calls {
+    private static final Map<String, Method> FOUND = new HashMap<>();
+
     private int wrong = 0;
 
     /** What a call answers: a number, or throws. and the name of the exception. */
@@ -23,9 +27,7 @@ final class Calls {
             arguments[i] = argument(words[i]);
         }
         try {
-            Method method = methodOf(target, call.substring(0, bracket));
-            method.setAccessible(true);
-            return method.invoke(target, arguments);
+            return methodOf(target.getClass(), call.substring(0, bracket)).invoke(target, arguments);
         } catch (IllegalAccessException e) {
             throw new IllegalStateException(call, e);
         }
@@ -38,9 +40,15 @@ final class Calls {
         return Integer.valueOf(word);
     }
 
-    private static Method methodOf(Object target, String name) {
-        for (Method method : target.getClass().getDeclaredMethods()) {
+    private static Method methodOf(Class<?> type, String name) {
+        // Looking a method up is slow, and the long runs call each many thousand times.
+        return FOUND.computeIfAbsent(type.getName() + "." + name, key -> lookUp(type, name));
+    }
+
+    private static Method lookUp(Class<?> type, String name) {
+        for (Method method : type.getDeclaredMethods()) {
             if (method.getName().equals(name)) {
+                method.setAccessible(true);
                 return method;
             }
         }
