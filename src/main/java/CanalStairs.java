@@ -61,8 +61,6 @@ public final class CanalStairs {
             return 0;
         }
         areas[pool] = area;
-        waters[pool] = 0;
-        lefts[pool] = 0;
         return 1;
     }
 
@@ -229,7 +227,6 @@ public final class CanalStairs {
         Arrays.fill(gateUses, USES_AT_FIRST);
         Arrays.fill(draughts, DRAUGHT_AT_FIRST);
         Arrays.fill(places, NONE);
-        depth = 0;
         deepest = 0;
         holds = 0;
     }
@@ -323,6 +320,7 @@ public final class CanalStairs {
         }
         areas[pool] = NOT_DUG;
         waters[pool] = 0;
+        lefts[pool] = 0;
         leave(1);
         return lay;
     }

@@ -14,11 +14,19 @@ final class Calls {
         try {
             return String.valueOf(invoke(target, call));
         } catch (InvocationTargetException e) {
-            return "throws." + e.getCause().getClass().getSimpleName();
+            boolean machines = target instanceof CanalStairs && isMachines(e.getCause());
+            return (machines ? "the machine " : "") + "throws." + e.getCause().getClass().getSimpleName();
         }
     }
 
-    static Object invoke(Object target, String call) throws InvocationTargetException {
+    /** The machine's own exceptions tell of an index, a null or a division: the class's do not. */
+    private static boolean isMachines(Throwable thrown) {
+        String text = String.valueOf(thrown.getMessage());
+        return text.equals("null") || text.startsWith("Index") || text.startsWith("Cannot")
+            || text.contains("by zero");
+    }
+
+    private static Object invoke(Object target, String call) throws InvocationTargetException {
         int bracket = call.indexOf('(');
         String inside = call.substring(bracket + 1, call.length() - 1).trim();
         String[] words = inside.isEmpty() ? new String[0] : inside.split(", *");

@@ -1,4 +1,3 @@
-import java.lang.reflect.InvocationTargetException;
 import java.util.ArrayList;
 import java.util.HashSet;
 import java.util.List;
@@ -38,25 +37,13 @@ public final class ModelTest {
             String call = i < 16 && seed % 2 == 0 ? opening(random, i) : choose(random);
             done.add(call);
             String want = Calls.answer(model, call);
-            String got = answer(stairs, call);
+            String got = Calls.answer(stairs, call);
             SEEN.add(call.substring(0, call.indexOf('(')) + " " + got);
             CALLS.due("seed " + seed + ", call " + i + ", " + call, got, want);
             if (!got.equals(want) || !sameState(seed, i, call, stairs, model)) {
                 System.out.println(done);
                 return;
             }
-        }
-    }
-
-    /** The machine's own exceptions have texts that tell of an index or a null: ours do not. */
-    private static String answer(CanalStairs stairs, String call) {
-        try {
-            return String.valueOf(Calls.invoke(stairs, call));
-        } catch (InvocationTargetException e) {
-            String text = String.valueOf(e.getCause().getMessage());
-            boolean machines = text.equals("null") || text.startsWith("Index") || text.startsWith("Cannot")
-                || text.contains("by zero");
-            return (machines ? "the machine " : "") + "throws." + e.getCause().getClass().getSimpleName();
         }
     }
 

@@ -387,6 +387,7 @@ public final class PromisesTest {
             first(4) -> 4; told(0) -> 7; first(5) -> 7; told(0) -> 10; first(20) -> 7; told(0) -> 13
             first(21) -> -1; told(0) -> 16; told(1) -> 1; first(-2147483648) -> 1
             first(2147483647) -> -1; pool(1, 4) -> 0; pool(7, 4) -> 0
+            dig(0, 9) -> 1; first(0) -> 0; first(1) -> 1; pour(0, 9) -> 9; first(1) -> 0
             """);
         CALLS.run("14 none is dug", "first(0) -> -1; first(-5) -> -1; told(0) -> 0; told(1) -> 0");
     }
