@@ -79,7 +79,9 @@ public final class CanalStairs {
     public int draw(int pool, int height)
             throws ArrayIndexOutOfBoundsException, IllegalArgumentException, NullPointerException {
         checkPool(pool);
-        checkRange(height, 0, Integer.MAX_VALUE);
+        if (height < 0) {
+            throw new IllegalArgumentException("the height is below 0");
+        }
         return answered(drawDown(pool, height));
     }
 

@@ -1,7 +1,10 @@
 import java.lang.reflect.InvocationTargetException;
 import java.lang.reflect.Method;
 import java.util.HashMap;
+import java.util.List;
 import java.util.Map;
+import java.util.Set;
+import java.util.TreeSet;
 
 /** Carries out calls that are written as text, such as "dig(0, 2)". */
 final class Calls {
@@ -65,13 +68,32 @@ final class Calls {
 
     /** Rows "call -> answer" on a new object; one row may hold several, parted by semicolons. */
     void run(String title, String rows) {
+        carryOut(title, rows);
+    }
+
+    /** One call behind rows on a new object: its answer, and all that it changes, see Snapshot. */
+    void changes(String title, String rows, String call, String answer, String changes) {
+        CanalStairs stairs = carryOut(title, rows);
+        Snapshot before = new Snapshot(stairs);
+        due(title + ": " + call, answer(stairs, call), answer);
+        Set<String> found = new TreeSet<>(before.changesTo(new Snapshot(stairs)));
+        Set<String> wanted = new TreeSet<>(List.of(changes.trim().split("\\s+")));
+        wanted.remove("");
+        due(title + ": changes by " + call, found.toString(), wanted.toString());
+    }
+
+    private CanalStairs carryOut(String title, String rows) {
         CanalStairs stairs = new CanalStairs();
         for (String row : rows.split("[;\n]")) {
             if (!row.isBlank()) {
                 String[] sides = row.trim().split(" *-> *");
-                due(title + ": " + sides[0], answer(stairs, sides[0]), sides[1]);
+                String got = answer(stairs, sides[0]);
+                // A row without an answer only leads up to others: any number will do.
+                String want = sides.length > 1 ? sides[1] : got.matches("-?[0-9]+") ? got : "a number";
+                due(title + ": " + sides[0], got, want);
             }
         }
+        return stairs;
     }
 
     void due(String what, String got, String want) {

@@ -38,12 +38,15 @@ public final class FaceTest {
     private static void methods() {
         Map<String, List<String>> due = due();
         TreeSet<String> found = new TreeSet<>();
+        List<String> names = due.keySet().stream().map(face -> face.replaceAll("int (\\w+).*", "$1")).toList();
         for (Method method : CanalStairs.class.getDeclaredMethods()) {
             String face = method.getReturnType() + " " + method.getName()
                 + Arrays.toString(method.getParameterTypes());
             List<String> thrown = due.get(face);
             CALLS.due(face, Modifier.toString(method.getModifiers() & ~Modifier.STATIC),
                 thrown == null ? "private" : "public");
+            boolean borrowed = thrown == null && names.contains(method.getName());
+            CALLS.due(face + " bears the name of a public method", "" + borrowed, "false");
             if (thrown != null) {
                 found.add(face);
                 List<String> declared =
